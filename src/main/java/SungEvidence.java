@@ -1680,7 +1680,8 @@ public final class SungEvidence {
         int bestKey(int witness, int which, int testimony, int what) {
             int best = NONE;
             int most = NONE;
-            for (int key = bench.lowestKey(witness, which); key <= bench.highestKey(witness, which); key++) {
+            int highest = bench.highestKey(witness, which);
+            for (int key = bench.lowestKey(witness, which); key <= highest; key++) {
                 int count = soundingFrom(which, key, testimony);
                 if (count > most) {
                     most = count;

@@ -17,6 +17,7 @@ public final class PromiseTests {
         end();
         text();
         textTokens();
+        textOfSigns();
         textMotives();
         textLaw();
         textTrial();
@@ -285,6 +286,26 @@ public final class PromiseTests {
         Check.faulty(x, 2, "slip", 1, 0);
     }
 
+    /** As many tokens as the tape can hold. */
+    private static void textOfSigns() {
+        SungEvidence x = new SungEvidence();
+        x.witness(1, 60, 1);
+        StringBuilder signs = new StringBuilder();
+        while (signs.length() < 400) {
+            signs.append(';');
+        }
+        for (int k = 0; k < 3; k++) {
+            Check.faulty(x, k, signs.toString(), 1, 0);
+        }
+        StringBuilder sum = new StringBuilder("shake 1");
+        while (sum.length() < 399) {
+            sum.append("*1");
+        }
+        Check.good(x, 1, sum + ";", 1);
+        due("a long product", x.of(0, 6), 1);
+        Check.faulty(x, 1, sum + "*", 1, 400);
+    }
+
     private static void textMotives() {
         SungEvidence x = new SungEvidence();
         Check.faulty(x, 0, "motive", 1, 6);
@@ -454,17 +475,23 @@ public final class PromiseTests {
         SungEvidence y = new SungEvidence();
         y.witness(1, 60, 1);
         y.claim(0, 0, 0);
-        Check.good(y, 0, "motive 0 0 same same same same same same same; motive 0 1 up 1 up 1; motive 0 2 same;", 3);
+        Check.good(y, 0, "motive 0 0 same same same same same same same; motive 0 1 up 1 up 1;motive 0 2 same;motive 0 3;", 4);
         for (int i = 0; i < 13; i++) {
             due("fifteen bars", y.call(0, 0, 5) >= 0, true);
         }
         due("195 bars", y.look(3), 195);
         due("no room for fifteen", y.call(0, 0, 5), NONE);
+        y.claim(0, 0, 3);
+        due("one bar", y.call(0, 0, 5) >= 0, true);
         y.claim(0, 0, 1);
-        due("room for five", y.call(0, 0, 5) >= 0, true);
-        due("200 bars", y.look(3), 200);
+        due("no room for three notes and two rests", y.call(0, 0, 5), NONE);
+        due("undo", y.undo(), false);
         y.claim(0, 0, 2);
-        due("no room for three", y.call(0, 0, 5), NONE);
+        due("three bars", y.call(0, 0, 5) >= 0, true);
+        y.claim(0, 0, 3);
+        due("one bar", y.call(0, 0, 5) >= 0, true);
+        due("200 bars", y.look(3), 200);
+        due("no room for one", y.call(0, 0, 5), NONE);
     }
 
     /** What each word of the law is, read off the weight, the shake and the bars that a law of that word makes. */
@@ -824,6 +851,10 @@ public final class PromiseTests {
         due("one", x.fair(0, 0, 9, 1), 500000);
         due("two", x.fair(0, 0, 9, 2), 1000000);
         due("in another key", x.fair(0, 0, 10, 0), 500000);
+        Check.good(x, 1, "slip 9999;", 1);
+        due("slip is held to 1000", x.fair(0, 0, 9, 3), 0);
+        due("all four slip", x.fair(0, 0, 9, 4), 1000000);
+        Check.good(x, 1, "slip 1000 when note = 14; slip 500 when bar = 0; slip 0;", 3);
         for (int wild : new int[] {-1, 10, WILD[0], WILD[1]}) {
             due("no such e", x.fair(0, 0, 9, wild), NONE);
         }
@@ -892,6 +923,13 @@ public final class PromiseTests {
         x.heard(10);
         x.heard(10);
         due("from no key that is below 0", x.read(1, 0), 0);
+        due("but so with the first alone", x.read(2, 2), 2);
+        Check.good(x, 0, "motive 1 0 down 1 same;", 1);
+        x.heard(0);
+        x.heard(5);
+        x.heard(60);
+        x.heard(60);
+        due("from no key that is above 59", x.read(1, 0), 0);
         due("but so with the first alone", x.read(2, 2), 2);
     }
 
@@ -1034,6 +1072,13 @@ public final class PromiseTests {
         due("one", x.calls(0, 0, 0), 1);
         Check.good(x, 0, "motive 0 0 up 24 up 24;", 1);
         due("one who can sing it", x.calls(0, 0, 1), 2);
+        due("another what", x.calls(0, 0, 2), NONE);
+        Check.good(x, 0, "motive 0 0 up 20; motive 0 1 same;", 2);
+        x.claim(1, 0, 1);
+        due("one who can sing it in one key alone", x.keys(0, 0, 0), 1);
+        x.strike(0);
+        x.set(4, 0, 0);
+        due("is enough", x.calls(0, 0, 1), 1);
         Check.good(x, 0, "motive 0 0 up 24 up 24 up 24;", 1);
         due("nobody can sing it", x.calls(0, 0, 0), NONE);
         due("another what", x.calls(0, 0, 2), NONE);
@@ -1043,6 +1088,17 @@ public final class PromiseTests {
             due("no such value", x.calls(0, wild, 0), NONE);
         }
         due("nothing stays", x.look(2), 1);
+        SungEvidence y = new SungEvidence();
+        for (int i = 0; i < 8; i++) {
+            y.witness(1, 60, 1);
+            y.claim(i, 5, 3);
+        }
+        Check.good(y, 0, "motive 5 3;", 1);
+        y.set(1, 0, 32);
+        due("all eight", y.calls(5, 3, 0), 8);
+        due("the whole set", y.calls(5, 3, 1), 255);
+        y.set(1, 0, 33);
+        due("not enough", y.calls(5, 3, 1), NONE);
     }
 
     private static void choir() {
@@ -1134,7 +1190,7 @@ public final class PromiseTests {
         for (int[] four : alike) {
             due("alike", x.chord(four[0], four[1], four[2], four[3], 20, 0), NONE);
         }
-        for (int wild : new int[] {-1, 5, WILD[0], WILD[1]}) {
+        for (int wild : new int[] {-1, 7, WILD[0], WILD[1]}) {
             due("no first", x.chord(wild, 1, 2, 3, 20, 0), NONE);
             due("no second", x.chord(0, wild, 2, 3, 20, 0), NONE);
             due("no third", x.chord(0, 1, wild, 3, 20, 0), NONE);
@@ -1148,6 +1204,10 @@ public final class PromiseTests {
         x.set(0, 0, 4095);
         due("all sound", x.chord(0, 3, 4, 1, 25, 0), 60 * 60 * 15);
         due("lowest of all", x.chord(0, 3, 4, 1, 25, 3), 10);
+        x.witness(1, 1, 1);
+        x.witness(60, 60, 1);
+        due("the lowest note of all", x.chord(0, 3, 4, 5, 25, 3), 1);
+        due("the highest note of all", x.chord(0, 3, 4, 6, 25, 3), 60);
         x.set(0, 0, 0);
         due("none sound", x.chord(0, 3, 4, 1, 25, 0), 0);
         due("no lowest", x.chord(0, 3, 4, 1, 25, 1), NONE);
@@ -1286,7 +1346,32 @@ public final class PromiseTests {
         x.cross(0);
         due("the latest image", x.image(false), true);
         due("nerve", x.of(0, 3), 94 - 15);
+        due("nothing to undo", x.look(10), 0);
         due("trial of the image", x.trial(), 1);
+        imageOfWhatIsUndone();
+    }
+
+    /** What was sung, written and heard when the image was taken, though other things took its place since. */
+    private static void imageOfWhatIsUndone() {
+        SungEvidence x = smallBench();
+        x.call(0, 0, 9);
+        x.heard(10);
+        x.heard(10);
+        x.image(true);
+        due("undo", x.undo(), true);
+        x.call(1, 0, 30);
+        x.heard(0);
+        x.heard(10);
+        x.heard(11);
+        due("another bar", x.bar(0), 31);
+        due("another witness", x.book(0, 2), 1);
+        due("not heard", x.read(0, 0), 0);
+        due("image(false)", x.image(false), true);
+        due("the bar", x.bar(0), 10);
+        due("the rest", x.bar(2), 0);
+        due("the witness", x.testimony(0, 0), 0);
+        due("in the book", x.book(0, 2), 0);
+        due("heard", x.read(0, 1), 1);
     }
 
     private static void look() {
