@@ -527,6 +527,11 @@ public final class PromiseTests {
         Check.good(x, 1, "slip 1000 when room > 46; slip 0; weight slips * 10;", 3);
         due("two slips", x.call(0, 2, 4), 2);
         due("slips of the testimony", x.testimony(1, 7), 20);
+        Check.good(x, 1, "shake slips * 30 + 1; slip slips * 1000; weight slips;", 3);
+        due("slips of the testimony", x.testimony(1, 7), 2);
+        due("slips are 0 for shake", x.of(0, 6), 1);
+        due("slips of the testimony", x.testimony(1, 7), 2);
+        due("slips are 0 for slip", x.fair(0, 2, 4, 0), 1000000);
         x.set(4, 0, 1);
         Check.good(x, 1, "weight hoarse * 41;", 1);
         due("half downwards", x.testimony(0, 7), 20);
