@@ -119,18 +119,14 @@ public final class SungEvidence {
 
     public int text(int k) {
         tape.clearFault();
-        if (!isWithin(k, 0, 2)) {
-            return NONE;
-        }
         tape.cutIntoTokens(k);
         tape.length = 0;
-        if (k == 0) {
-            return draftMotives.readFrom(tape) ? adoptMotives() : NONE;
+        switch (k) {
+            case 0: return draftMotives.readFrom(tape) ? adoptMotives() : NONE;
+            case 1: return lawReader.readLines() ? adoptLaw() : NONE;
+            case 2: return draftPlan.readFrom(tape, told.witnesses) ? adoptPlan() : NONE;
+            default: return NONE;
         }
-        if (k == 1) {
-            return lawReader.readLines() ? adoptLaw() : NONE;
-        }
-        return draftPlan.readFrom(tape, told.witnesses) ? adoptPlan() : NONE;
     }
 
     public int fault(int what) {
@@ -1549,8 +1545,8 @@ public final class SungEvidence {
                 court.nerves[i] = Math.min(MOST_NERVE, court.nerves[i] + 7);
                 court.hoarse[i] = court.draw(10) == 0 ? 1 : 0;
             }
-            court.day++;
             court.write(RESTED, NONE, NONE, 0);
+            court.day++;
         }
 
         int goThrough(Plan plan) {

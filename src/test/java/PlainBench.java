@@ -227,14 +227,14 @@ final class PlainBench {
     int text(int k) {
         fault = 0;
         faultPlace = NONE;
-        if (!in(k, 0, 2)) {
-            return NONE;
-        }
         StringBuilder text = new StringBuilder();
         for (int b : tape) {
             text.append((char) b);
         }
         tape.clear();
+        if (!in(k, 0, 2)) {
+            return NONE;
+        }
         try {
             Reader reader = new Reader(text.toString());
             if (k == 0) {
@@ -623,8 +623,8 @@ final class PlainBench {
         for (Singer s : now.singers) {
             s.hoarse = draw(10) == 0 ? 1 : 0;
         }
-        now.day++;
         line(3, NONE, NONE, 0);
+        now.day++;
     }
 
     int call(int w, int fact, int key) {

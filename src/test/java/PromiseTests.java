@@ -258,7 +258,14 @@ public final class PromiseTests {
             due("no such text", x.text(k), NONE);
             due("no such text has no fault", x.fault(0), 0);
             due("no such text has no place", x.fault(1), NONE);
+            x.feed(0, 0, 0, 0, 0);
+            due("no such text", x.text(k), NONE);
+            due("no such text has no fault", x.fault(0), 0);
+            due("the tape is empty behind no such text", x.end(1), false);
+            due("feeding begins anew", x.feed(0, 0, 0, 0, 0), 20);
+            x.end(0);
         }
+        due("the texts stay", x.look(6) + x.look(7) * 10 + x.look(8) * 100, 230);
     }
 
     private static void textTokens() {
@@ -651,6 +658,9 @@ public final class PromiseTests {
         for (int i = 0; i < 32; i++) {
             due("thirty days", x.days(30) >= 0, true);
         }
+        for (int i = 0; i < 120; i++) {
+            due("the day of rest " + i, x.book(i, 0), i);
+        }
         due("day 990", x.look(1), 990);
         due("above 999", x.days(10), NONE);
         due("nothing is done", x.look(1), 990);
@@ -787,7 +797,7 @@ public final class PromiseTests {
         x.call(2, 0, 20);
         x.cross(1);
         x.strike(0);
-        int[][] due = {{1, 3, NONE, NONE, 0}, {1, 0, 2, 0, 0}, {1, 1, 1, NONE, 0}, {1, 2, 0, NONE, 0}};
+        int[][] due = {{0, 3, NONE, NONE, 0}, {1, 0, 2, 0, 0}, {1, 1, 1, NONE, 0}, {1, 2, 0, NONE, 0}};
         for (int i = 0; i < due.length; i++) {
             for (int what = 0; what < 5; what++) {
                 due("book(" + i + ", " + what + ")", x.book(i, what), due[i][what]);
