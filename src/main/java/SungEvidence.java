@@ -1570,6 +1570,8 @@ public final class SungEvidence {
     /** What is asked in thought of notes: of slips, of motives heard, of what sounds together. */
     private static final class Voices {
         private static final int MILLION = 1000000;
+        /** Of a motive that fits from no key: more unlike notes than can be asked for. */
+        private static final int FITS_FROM_NONE = MOST_SLIPS_ASKED + 1;
 
         private final Bench bench;
         private final Told told;
@@ -1616,7 +1618,7 @@ public final class SungEvidence {
             int unlikeOfFirst = NONE;
             for (int which = 0; which < MOTIVES; which++) {
                 boolean asLong = told.heardNotes > 0 && told.motives.notes[which] == told.heardNotes;
-                int unlike = asLong ? fewestUnlike(which) : MOST_HEARD;
+                int unlike = asLong ? fewestUnlike(which) : FITS_FROM_NONE;
                 if (unlike <= e) {
                     howMany++;
                     if (first == NONE) {
@@ -1631,9 +1633,11 @@ public final class SungEvidence {
             return what == 1 ? first : unlikeOfFirst;
         }
 
+        /** From a key from which it leaves the notes a motive does not fit, whatever may be unlike. */
         private int fewestUnlike(int which) {
-            int fewest = told.heardNotes;
-            for (int key = 0; key < MOST_NOTE; key++) {
+            int fewest = FITS_FROM_NONE;
+            int highest = MOST_NOTE - 1 - told.motives.rise(which);
+            for (int key = told.motives.fall(which); key <= highest; key++) {
                 fewest = Math.min(fewest, unlikeFrom(which, key));
             }
             return fewest;

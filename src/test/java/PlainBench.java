@@ -795,6 +795,7 @@ final class PlainBench {
                     int unlike = 0;
                     for (int i = 0; i < notes.length; i++) {
                         unlike += notes[i] == now.heard.get(i) ? 0 : 1;
+                        unlike += in(notes[i], 1, 60) ? 0 : 99;
                     }
                     least = Math.min(least, unlike);
                 }

@@ -946,6 +946,39 @@ public final class PromiseTests {
         x.heard(60);
         due("from no key that is above 59", x.read(1, 0), 0);
         due("but so with the first alone", x.read(2, 2), 2);
+        readKeepsToNotes();
+    }
+
+    /** What lies beyond the notes is no note that is unlike: from such a key the motive does not fit. */
+    private static void readKeepsToNotes() {
+        SungEvidence x = new SungEvidence();
+        Check.good(x, 0, "motive 5 1 up 24 up 24 up 24; motive 0 0 down 24 down 24 down 24;", 2);
+        hear(x, 1, 1, 1, 1);
+        due("from no key, whatever may be unlike", x.read(9, 0), 0);
+        due("no first", x.read(9, 1), NONE);
+        due("no unlike ones", x.read(9, 2), NONE);
+        Check.good(x, 0, "motive 5 1 up 24 up 24;", 1);
+        hear(x, 20, 44, 60);
+        due("key 19 leaves the notes above", x.read(1, 0), 0);
+        due("two unlike from key 11", x.read(2, 2), 2);
+        hear(x, 12, 36, 60);
+        due("up to the highest note", x.read(0, 1), 21);
+        hear(x, 13, 37, 48);
+        due("key 12 leaves the notes above", x.read(2, 0), 0);
+        due("all unlike from a key that it has", x.read(3, 2), 3);
+        Check.good(x, 0, "motive 2 3 down 20 up 20;", 1);
+        hear(x, 20, 1, 20);
+        due("key 19 leaves the notes below", x.read(1, 0), 0);
+        due("two unlike from key 20", x.read(2, 2), 2);
+        hear(x, 21, 1, 21);
+        due("down to the lowest note", x.read(0, 1), 11);
+    }
+
+    private static void hear(SungEvidence x, int... notes) {
+        due("none heard", x.heard(0), 0);
+        for (int i = 0; i < notes.length; i++) {
+            due("heard", x.heard(notes[i]), i + 1);
+        }
     }
 
     private static void duet() {
