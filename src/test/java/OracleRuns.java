@@ -9,12 +9,18 @@ public final class OracleRuns {
         "cross", "rest", "again", ";", "+", "-", "*", "/", "(", ")", "<", "=", ">", "0", "1", "7", "25", "9999",
         "10000", "x", "Slip", ".", "\t", "\n", " ", "\u00e9", "slipslip", "12ab", "00", "60", "8"};
 
+    private static final int MOST_CALLS = 512;
+    /** A text as long as the tape takes 24 calls; nothing else here takes as many. */
+    private static final int MOST_AT_ONCE = 24;
+
     private final Random chance;
     private final SungEvidence x = new SungEvidence();
     private final PlainBench y = new PlainBench();
     private final String name;
     /** Most runs seldom tell anew what makes singing possible, so that testimonies gather. */
     private final boolean steady;
+    /** What later calls answer than the 512th is free: so many were made. */
+    private int made = 0;
 
     private OracleRuns(long seed) {
         chance = new Random(seed);
@@ -31,14 +37,18 @@ public final class OracleRuns {
     }
 
     private void go() {
-        int calls = 0;
         if (below(10) > 0) {
-            calls += setUp();
+            setUp();
         }
-        while (calls < 500) {
+        while (made <= MOST_CALLS - MOST_AT_ONCE) {
             int texts = steady ? 2 : 12;
-            calls += below(100) < texts ? tellText(steady ? from(1, 2) : below(3)) : oneCall();
+            if (below(100) < texts) {
+                tellText(steady ? from(1, 2) : below(3));
+            } else {
+                oneCall();
+            }
         }
+        Check.due(name + "512 calls at most", made <= MOST_CALLS, true);
     }
 
     private int below(int n) {
@@ -58,8 +68,7 @@ public final class OracleRuns {
         return kind < 4 ? from(least - 2, most + 2) : from(least, most);
     }
 
-    private int setUp() {
-        int calls = 0;
+    private void setUp() {
         int witnesses = from(1, 8);
         for (int i = 0; i < witnesses; i++) {
             int low = from(1, 30);
@@ -70,33 +79,32 @@ public final class OracleRuns {
                 if (below(3) > 0) {
                     int value = below(4) == 0 ? from(0, 3) : fact % 4;
                     same("claim", x.claim(i, fact, value), y.claim(i, fact, value));
-                    calls++;
                 }
             }
-            calls++;
         }
         for (int k = 0; k < 3; k++) {
-            calls += tellText(k);
+            tellText(k);
         }
         if (below(4) == 0) {
             for (int i = 0; i < 40; i++) {
                 int n = 24 + below(6);
                 same("days", x.days(n), y.days(n));
-                calls++;
             }
         }
-        return calls;
     }
 
+    /** One call of the class, and the same of the model. */
     private void same(String call, int got, int want) {
+        made++;
         Check.due(name + call, got, want);
     }
 
     private void same(String call, boolean got, boolean want) {
+        made++;
         Check.due(name + call, got, want);
     }
 
-    private int tellText(int k) {
+    private void tellText(int k) {
         String text = k == 0 ? motives() : k == 1 ? law() : plan();
         if (below(3) == 0 && !steady) {
             text = spoiled(text);
@@ -104,7 +112,6 @@ public final class OracleRuns {
         if (text.length() > 400) {
             text = text.substring(0, 400);
         }
-        int calls = 4;
         for (int i = 0; i < text.length(); i += 20) {
             int[] five = new int[5];
             for (int j = 0; j < 20; j++) {
@@ -112,7 +119,6 @@ public final class OracleRuns {
                 five[j / 4] = five[j / 4] << 8 | sign;
             }
             same("feed", x.feed(five[0], five[1], five[2], five[3], five[4]), y.feed(five));
-            calls++;
         }
         int n = below(30) == 0 ? from(-1, 420) : text.length();
         same("end(" + n + ")", x.end(n), y.end(n));
@@ -120,7 +126,6 @@ public final class OracleRuns {
         same("text(" + which + ") of '" + text + "'", x.text(which), y.text(which));
         same("fault(0) of '" + text + "'", x.fault(0), y.fault(0));
         same("fault(1) of '" + text + "'", x.fault(1), y.fault(1));
-        return calls;
     }
 
     private String spoiled(String text) {
@@ -291,7 +296,7 @@ public final class OracleRuns {
         return from(least, y.keys(w, fact, 2));
     }
 
-    private int oneCall() {
+    private void oneCall() {
         int kind = below(100);
         if (kind < (steady ? 3 : 8)) {
             tellOne();
@@ -302,7 +307,6 @@ public final class OracleRuns {
         }
         int what = below(25) == 0 ? about(-1, 14) : below(14);
         same("look(" + what + ")", x.look(what), y.look(what));
-        return 2;
     }
 
     private void tellOne() {
